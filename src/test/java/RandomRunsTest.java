@@ -1,0 +1,259 @@
+import java.util.ArrayList;
+import java.util.List;
+import java.util.Random;
+
+/** Long runs of calls, drawn from a fixed seed, answered as the naive judge answers them. */
+public final class RandomRunsTest {
+    private static final int RUNS = 1500;
+
+    public static void main(String[] args) {
+        for (int run = 0; run < RUNS; run++) {
+            compareRun(run);
+        }
+        for (int seed = 0; seed < 60; seed++) {
+            compareWholeRuns(seed);
+            lawsOfWays(seed);
+        }
+        for (int seed = 0; seed < 300; seed++) {
+            compareAllChoices(seed);
+        }
+        Due.end();
+    }
+
+    /** At most 512 calls on one object, most of them with arguments that may be. */
+    private static void compareRun(int run) {
+        Random random = new Random(run);
+        ShelfJudge x = new ShelfJudge();
+        NaiveJudge y = new NaiveJudge();
+        int things = 1 + random.nextInt(16);
+        int calls = 20 + random.nextInt(180);
+        StringBuilder told = new StringBuilder();
+        for (int j = 0; j < calls; j++) {
+            int call = random.nextInt(40);
+            int[] a = new int[5];
+            for (int n = 0; n < 5; n++) {
+                a[n] = argument(random, things);
+            }
+            int want = naive(y, call, a, random.nextInt());
+            int got = real(x, call, a, lastSeed);
+            told.append(call).append(java.util.Arrays.toString(a)).append(' ');
+            Due.is("run " + run + ", call " + j + ": " + told, got, want);
+            if (got != want) {
+                return;
+            }
+        }
+    }
+
+    private static int lastSeed;
+
+    private static int argument(Random random, int things) {
+        int kind = random.nextInt(40);
+        if (kind == 0) {
+            return random.nextInt();
+        }
+        if (kind == 1) {
+            return -1;
+        }
+        if (kind == 2) {
+            return 295 + random.nextInt(10);
+        }
+        if (kind < 12) {
+            return random.nextInt(20) - 1;
+        }
+        if (kind < 20) {
+            return random.nextInt(40);
+        }
+        return kind < 30 ? random.nextInt(9) : random.nextInt(things);
+    }
+
+    private static int naive(NaiveJudge y, int call, int[] a, int seed) {
+        lastSeed = seed;
+        switch (call) {
+            case 0: return y.price(a[0], a[1]);
+            case 1: return y.price(a[0], a[1] * 50);
+            case 2: case 3: case 4: case 5: return y.ask(a[0], a[1], a[2], a[3], a[4]);
+            case 6: return y.draw(a[0], a[1], seed);
+            case 7: return y.change(a[0], a[1]);
+            case 8: return seed % 4 == 0 ? y.cut(a[0]) : y.cut(y.many(0));
+            case 9: return y.asked(a[0]);
+            case 10: return y.many(a[0]);
+            case 11: case 12: case 13: case 14: return y.serve(a[0], a[1]);
+            case 15: return y.paid();
+            case 16: return y.hit(a[0]);
+            case 17: return y.gone(a[0]);
+            case 18: case 19: case 20: case 21: return y.look(a[0], a[1], a[2]);
+            case 22: case 23: return y.level(a[0], a[1]);
+            case 24: return y.fewest(a[0]);
+            case 25: return y.share();
+            case 26: return y.many(0) > 40 ? 0 : y.least(a[0]);
+            case 27: case 28: return y.many(0) > 40 ? 0 : y.goes(a[0], a[1]);
+            case 29: return y.phases(a[0]);
+            case 30: return y.phase(a[0], a[1]);
+            case 31: return y.distance(a[0]);
+            case 32: return y.curve(a[0]);
+            case 33: return seed % 4 == 0 ? y.hard(a[0], a[1], a[2]) : y.many(2);
+            case 34: return y.claim(a[0]);
+            case 35: return y.copy();
+            case 36: return seed % 4 == 0 ? y.unclaim() : y.many(2);
+            case 37: return y.cost(a[0]);
+            default: return y.check(a[0], a[1]);
+        }
+    }
+
+    private static int real(ShelfJudge x, int call, int[] a, int seed) {
+        switch (call) {
+            case 0: return x.price(a[0], a[1]);
+            case 1: return x.price(a[0], a[1] * 50);
+            case 2: case 3: case 4: case 5: return x.ask(a[0], a[1], a[2], a[3], a[4]);
+            case 6: return x.draw(a[0], a[1], seed);
+            case 7: return x.change(a[0], a[1]);
+            case 8: return seed % 4 == 0 ? x.cut(a[0]) : x.cut(x.many(0));
+            case 9: return x.asked(a[0]);
+            case 10: return x.many(a[0]);
+            case 11: case 12: case 13: case 14: return x.serve(a[0], a[1]);
+            case 15: return x.paid();
+            case 16: return x.hit(a[0]);
+            case 17: return x.gone(a[0]);
+            case 18: case 19: case 20: case 21: return x.look(a[0], a[1], a[2]);
+            case 22: case 23: return x.level(a[0], a[1]);
+            case 24: return x.fewest(a[0]);
+            case 25: return x.share();
+            case 26: return x.many(0) > 40 ? 0 : x.least(a[0]);
+            case 27: case 28: return x.many(0) > 40 ? 0 : x.goes(a[0], a[1]);
+            case 29: return x.phases(a[0]);
+            case 30: return x.phase(a[0], a[1]);
+            case 31: return x.distance(a[0]);
+            case 32: return x.curve(a[0]);
+            case 33: return seed % 4 == 0 ? x.hard(a[0], a[1], a[2]) : x.many(2);
+            case 34: return x.claim(a[0]);
+            case 35: return x.copy();
+            case 36: return seed % 4 == 0 ? x.unclaim() : x.many(2);
+            case 37: return x.cost(a[0]);
+            default: return x.check(a[0], a[1]);
+        }
+    }
+
+    /** Of one row by each way all that can be looked at, behind each asking, in a mixed order. */
+    private static void compareWholeRuns(int seed) {
+        Random random = new Random(seed);
+        int things = 2 + random.nextInt(15);
+        int n = seed % 10 == 0 ? 300 : 10 + random.nextInt(60);
+        ShelfJudge x = new ShelfJudge();
+        NaiveJudge y = new NaiveJudge();
+        for (int thing = 0; thing < 16; thing++) {
+            int price = seed % 3 == 0 ? 1 : 1 + random.nextInt(seed % 3 == 1 ? 4 : 1000);
+            Due.is("price", x.price(thing, price), y.price(thing, price));
+        }
+        Due.is("draw", x.draw(n, things, seed), y.draw(n, things, seed));
+        for (int way = 0; way <= 8; way++) {
+            int k = 1 + random.nextInt(8);
+            String name = "seed " + seed + ", way " + way + ", k " + k;
+            Due.is(name + ": serve", x.serve(way, k), y.serve(way, k));
+            Due.is(name + ": paid", x.paid(), y.paid());
+            Due.is(name + ": share", x.share(), y.share());
+            for (int i = 0; i < n; i++) {
+                Due.is(name + ": hit(" + i + ")", x.hit(i), y.hit(i));
+                Due.is(name + ": gone(" + i + ")", x.gone(i), y.gone(i));
+            }
+            for (int j = 0; j < 40; j++) {
+                int i = random.nextInt(n);
+                for (int thing = 0; thing < 16; thing++) {
+                    for (int what = 0; what <= 5; what++) {
+                        Due.is(name + ": look(" + i + ", " + thing + ", " + what + ")",
+                            x.look(i, thing, what), y.look(i, thing, what));
+                    }
+                }
+                for (int how = 0; how <= 4; how++) {
+                    Due.is(name + ": level(" + i + ", " + how + ")", x.level(i, how), y.level(i, how));
+                }
+            }
+        }
+    }
+
+    /** What must hold of any row: RESTING misses as the curve says, and nothing pays less than least. */
+    private static void lawsOfWays(int seed) {
+        Random random = new Random(seed);
+        ShelfJudge x = new ShelfJudge();
+        int n = seed % 6 == 0 ? 300 : 1 + random.nextInt(100);
+        x.draw(n, 1 + random.nextInt(10), seed);
+        for (int k = 1; k <= 8; k++) {
+            Due.is("RESTING is the curve", x.serve(1, k), x.curve(k));
+            Due.is("AHEAD pays the least at one price", x.serve(8, k), x.least(k));
+        }
+        for (int thing = 0; thing < 10; thing++) {
+            x.price(thing, 1 + random.nextInt(1000));
+        }
+        for (int k = 1; k <= 8; k++) {
+            int least = x.least(k);
+            for (int way = 0; way <= 8; way++) {
+                x.serve(way, k);
+                Due.that("no way pays less", x.paid() >= least);
+            }
+            x.unclaim();
+            for (int i = 0; i < Math.min(n, 40); i++) {
+                x.claim(x.goes(k, i));
+            }
+            if (n <= 40) {
+                Due.is("what goes costs the least", x.cost(k), least);
+            }
+        }
+        Due.is("room for all", x.least(8) >= x.least(7) ? x.least(7) : x.least(8), x.least(8));
+    }
+
+    /** The least and its first choice, found by walking through every choice there is. */
+    private static void compareAllChoices(int seed) {
+        Random random = new Random(seed);
+        ShelfJudge x = new ShelfJudge();
+        int n = 1 + random.nextInt(9);
+        int k = 1 + random.nextInt(3);
+        int[] row = new int[n];
+        int[] prices = new int[16];
+        int things = 2 + random.nextInt(4);
+        int offset = random.nextInt(11);
+        for (int thing = 0; thing < 16; thing++) {
+            prices[thing] = 1 + random.nextInt(3);
+            x.price(thing, prices[thing]);
+        }
+        for (int i = 0; i < n; i++) {
+            row[i] = offset + random.nextInt(things);
+            x.ask(row[i], -1, -1, -1, -1);
+        }
+        best = Integer.MAX_VALUE;
+        walk(row, prices, k, 0, new ArrayList<>(), new ArrayList<>());
+        Due.is("all choices, seed " + seed, x.least(k), best);
+        for (int i = 0; i < n; i++) {
+            Due.is("all choices, seed " + seed + ", goes " + i, x.goes(k, i), bestGoings.get(i));
+        }
+    }
+
+    private static int best;
+    private static List<Integer> bestGoings;
+
+    /** Goes through the choices in the order of the lesser thing, so that the first best one counts. */
+    private static void walk(int[] row, int[] prices, int k, int paid, List<Integer> shelf,
+            List<Integer> goings) {
+        int i = goings.size();
+        if (i == row.length) {
+            if (paid < best) {
+                best = paid;
+                bestGoings = new ArrayList<>(goings);
+            }
+            return;
+        }
+        boolean hit = shelf.contains(row[i]);
+        boolean full = shelf.size() == k;
+        for (int goes = -1; goes < 16; goes++) {
+            boolean may = hit || !full ? goes == -1 : shelf.contains(goes);
+            if (may) {
+                List<Integer> then = new ArrayList<>(shelf);
+                then.remove(Integer.valueOf(goes));
+                if (!hit) {
+                    then.add(row[i]);
+                }
+                goings.add(goes);
+                walk(row, prices, k, hit ? paid : paid + prices[row[i]], then, goings);
+                goings.remove(i);
+            }
+        }
+    }
+}
