@@ -716,8 +716,8 @@ public final class ShelfJudge {
             }
         }
 
+        /** It needs no mark taken: by the WAYS that look at marks nothing MARKED ever goes. */
         void takeAway(int thing) {
-            marks &= ~(1 << thing);
             if (way == GREEDY) {
                 height = credit[thing];
             }

@@ -11,16 +11,8 @@ public final class LeastTest {
         Due.end();
     }
 
-    private static ShelfJudge rowOf(int... things) {
-        ShelfJudge x = new ShelfJudge();
-        for (int thing : things) {
-            x.ask(thing, -1, -1, -1, -1);
-        }
-        return x;
-    }
-
     private static void least() {
-        ShelfJudge x = rowOf(0, 1, 2, 1, 0);
+        ShelfJudge x = Rows.of(0, 1, 2, 1, 0);
         Due.is("17: k 0", x.least(0), ShelfJudge.NUMBER);
         Due.is("17: k 9", x.least(9), ShelfJudge.NUMBER);
         Due.is("17: k -1", x.least(-1), ShelfJudge.NUMBER);
@@ -33,7 +25,7 @@ public final class LeastTest {
         Due.is("17: room for all", x.least(3), 12);
         Due.is("17: room for more", x.least(8), 12);
         Due.is("17: no ASKINGS", new ShelfJudge().least(1), 0);
-        ShelfJudge y = rowOf(0, 2, 4, 6, 8, 10, 12, 14, 15, 13);
+        ShelfJudge y = Rows.of(0, 2, 4, 6, 8, 10, 12, 14, 15, 13);
         Due.is("17: ten unlike ones", y.least(3), 10);
         y.ask(11, -1, -1, -1, -1);
         Due.is("17: eleven", y.least(3), ShelfJudge.LARGE);
@@ -44,7 +36,7 @@ public final class LeastTest {
     }
 
     private static void goes() {
-        ShelfJudge x = rowOf(0, 1, 2, 1, 0);
+        ShelfJudge x = Rows.of(0, 1, 2, 1, 0);
         x.price(0, 10);
         int[] want = {-1, -1, 1, 2, -1, -1};
         for (int i = 0; i < want.length; i++) {
@@ -58,7 +50,7 @@ public final class LeastTest {
         for (int i = 0; i < one.length; i++) {
             Due.is("18: goes(1, " + i + ")", x.goes(1, i), one[i]);
         }
-        ShelfJudge y = rowOf(14, 9, 3, 9, 15);
+        ShelfJudge y = Rows.of(14, 9, 3, 9, 15);
         int[] lesser = {-1, -1, 14, -1, 3};
         for (int i = 0; i < lesser.length; i++) {
             Due.is("18: the lesser THING, goes(2, " + i + ")", y.goes(2, i), lesser[i]);
@@ -67,7 +59,7 @@ public final class LeastTest {
 
     /** What was found for a row, a price or a k is not told of another. */
     private static void tableFollowsTheRow() {
-        ShelfJudge x = rowOf(0, 1, 2, 0, 1, 2);
+        ShelfJudge x = Rows.of(0, 1, 2, 0, 1, 2);
         Due.is("17: at first", x.least(2), 4);
         Due.is("17: by one place", x.least(1), 6);
         x.price(1, 50);
@@ -86,7 +78,7 @@ public final class LeastTest {
     }
 
     private static void phases() {
-        ShelfJudge x = rowOf(0, 1, 2, 3, 0, 1, 4, 0, 1, 2, 3, 4);
+        ShelfJudge x = Rows.of(0, 1, 2, 3, 0, 1, 4, 0, 1, 2, 3, 4);
         int[] of3 = {0, 0, 0, 1, 1, 1, 2, 2, 2, 3, 3, 3};
         int[] of4 = {0, 0, 0, 0, 0, 0, 1, 1, 1, 1, 2, 2};
         for (int i = 0; i < of3.length; i++) {
@@ -107,13 +99,13 @@ public final class LeastTest {
         Due.is("20: phase(3, -1)", x.phase(3, -1), -1);
         Due.is("20: phase(0, 0)", x.phase(0, 0), -1);
         Due.is("20: phase(9, 0)", x.phase(9, 0), -1);
-        ShelfJudge y = rowOf(5, 5, 6, 6, 5);
+        ShelfJudge y = Rows.of(5, 5, 6, 6, 5);
         Due.is("19: like ones", y.phases(1), 3);
         Due.is("20: like ones", y.phase(1, 3), 1);
     }
 
     private static void distances() {
-        ShelfJudge x = rowOf(4, 4, 5, 5, 6, 4, 5, 7, 4);
+        ShelfJudge x = Rows.of(4, 4, 5, 5, 6, 4, 5, 7, 4);
         int[] want = {0, 1, 0, 1, 0, 3, 3, 0, 3, -1};
         for (int i = 0; i < want.length; i++) {
             Due.is("21: distance(" + i + ")", x.distance(i), want[i]);
@@ -123,7 +115,7 @@ public final class LeastTest {
     }
 
     private static void curve() {
-        ShelfJudge x = rowOf(4, 4, 5, 5, 6, 4, 5, 7, 4);
+        ShelfJudge x = Rows.of(4, 4, 5, 5, 6, 4, 5, 7, 4);
         int[] want = {9, 7, 7, 4, 4};
         for (int k = 0; k < want.length; k++) {
             Due.is("22: curve(" + k + ")", x.curve(k), want[k]);
@@ -135,7 +127,7 @@ public final class LeastTest {
     }
 
     private static void hard() {
-        ShelfJudge x = rowOf(9, 9, 9);
+        ShelfJudge x = Rows.of(9, 9, 9);
         Due.is("23: way -1", x.hard(-1, 2, 9), ShelfJudge.NUMBER);
         Due.is("23: way 9", x.hard(9, 2, 9), ShelfJudge.NUMBER);
         Due.is("23: k 0", x.hard(0, 0, 9), ShelfJudge.NUMBER);

@@ -1,4 +1,6 @@
+import java.lang.reflect.Method;
 import java.util.ArrayList;
+import java.util.Arrays;
 import java.util.List;
 import java.util.Random;
 
@@ -6,7 +8,14 @@ import java.util.Random;
 public final class RandomRunsTest {
     private static final int RUNS = 1500;
 
-    public static void main(String[] args) {
+    /** A name that stands here more often is called more often. */
+    private static final String[] CALLS = {
+        "price", "price", "ask", "ask", "ask", "ask", "draw", "change", "cut", "asked", "many",
+        "serve", "serve", "serve", "serve", "paid", "hit", "gone", "look", "look", "look", "look",
+        "level", "level", "fewest", "share", "least", "goes", "goes", "phases", "phase", "distance",
+        "curve", "hard", "claim", "copy", "unclaim", "cost", "check", "check"};
+
+    public static void main(String[] args) throws ReflectiveOperationException {
         for (int run = 0; run < RUNS; run++) {
             compareRun(run);
         }
@@ -21,7 +30,7 @@ public final class RandomRunsTest {
     }
 
     /** At most 512 calls on one object, most of them with arguments that may be. */
-    private static void compareRun(int run) {
+    private static void compareRun(int run) throws ReflectiveOperationException {
         Random random = new Random(run);
         ShelfJudge x = new ShelfJudge();
         NaiveJudge y = new NaiveJudge();
@@ -29,14 +38,24 @@ public final class RandomRunsTest {
         int calls = 20 + random.nextInt(180);
         StringBuilder told = new StringBuilder();
         for (int j = 0; j < calls; j++) {
-            int call = random.nextInt(40);
-            int[] a = new int[5];
-            for (int n = 0; n < 5; n++) {
+            String name = CALLS[random.nextInt(CALLS.length)];
+            if (isKeptRare(name) && random.nextInt(4) != 0 || isTooSlow(name, y)) {
+                name = "many";
+            }
+            Method naive = methodOf(NaiveJudge.class, name);
+            Object[] a = new Object[naive.getParameterCount()];
+            for (int n = 0; n < a.length; n++) {
                 a[n] = argument(random, things);
             }
-            int want = naive(y, call, a, random.nextInt());
-            int got = real(x, call, a, lastSeed);
-            told.append(call).append(java.util.Arrays.toString(a)).append(' ');
+            if (name.equals("price") && random.nextBoolean()) {
+                a[1] = 1 + random.nextInt(1000);
+            }
+            if (name.equals("draw")) {
+                a[2] = random.nextInt();
+            }
+            int want = (Integer) naive.invoke(y, a);
+            int got = (Integer) methodOf(ShelfJudge.class, name).invoke(x, a);
+            told.append(name).append(Arrays.toString(a)).append(' ');
             Due.is("run " + run + ", call " + j + ": " + told, got, want);
             if (got != want) {
                 return;
@@ -44,7 +63,23 @@ public final class RandomRunsTest {
         }
     }
 
-    private static int lastSeed;
+    /** Calls that would leave little to look at, were they as frequent as the others. */
+    private static boolean isKeptRare(String name) {
+        return name.equals("cut") || name.equals("hard") || name.equals("unclaim");
+    }
+
+    private static boolean isTooSlow(String name, NaiveJudge y) {
+        return (name.equals("least") || name.equals("goes")) && y.many(0) > 40;
+    }
+
+    private static Method methodOf(Class<?> c, String name) {
+        for (Method m : c.getDeclaredMethods()) {
+            if (m.getName().equals(name)) {
+                return m;
+            }
+        }
+        throw new IllegalArgumentException(name);
+    }
 
     private static int argument(Random random, int things) {
         int kind = random.nextInt(40);
@@ -64,73 +99,6 @@ public final class RandomRunsTest {
             return random.nextInt(40);
         }
         return kind < 30 ? random.nextInt(9) : random.nextInt(things);
-    }
-
-    private static int naive(NaiveJudge y, int call, int[] a, int seed) {
-        lastSeed = seed;
-        switch (call) {
-            case 0: return y.price(a[0], a[1]);
-            case 1: return y.price(a[0], a[1] * 50);
-            case 2: case 3: case 4: case 5: return y.ask(a[0], a[1], a[2], a[3], a[4]);
-            case 6: return y.draw(a[0], a[1], seed);
-            case 7: return y.change(a[0], a[1]);
-            case 8: return seed % 4 == 0 ? y.cut(a[0]) : y.cut(y.many(0));
-            case 9: return y.asked(a[0]);
-            case 10: return y.many(a[0]);
-            case 11: case 12: case 13: case 14: return y.serve(a[0], a[1]);
-            case 15: return y.paid();
-            case 16: return y.hit(a[0]);
-            case 17: return y.gone(a[0]);
-            case 18: case 19: case 20: case 21: return y.look(a[0], a[1], a[2]);
-            case 22: case 23: return y.level(a[0], a[1]);
-            case 24: return y.fewest(a[0]);
-            case 25: return y.share();
-            case 26: return y.many(0) > 40 ? 0 : y.least(a[0]);
-            case 27: case 28: return y.many(0) > 40 ? 0 : y.goes(a[0], a[1]);
-            case 29: return y.phases(a[0]);
-            case 30: return y.phase(a[0], a[1]);
-            case 31: return y.distance(a[0]);
-            case 32: return y.curve(a[0]);
-            case 33: return seed % 4 == 0 ? y.hard(a[0], a[1], a[2]) : y.many(2);
-            case 34: return y.claim(a[0]);
-            case 35: return y.copy();
-            case 36: return seed % 4 == 0 ? y.unclaim() : y.many(2);
-            case 37: return y.cost(a[0]);
-            default: return y.check(a[0], a[1]);
-        }
-    }
-
-    private static int real(ShelfJudge x, int call, int[] a, int seed) {
-        switch (call) {
-            case 0: return x.price(a[0], a[1]);
-            case 1: return x.price(a[0], a[1] * 50);
-            case 2: case 3: case 4: case 5: return x.ask(a[0], a[1], a[2], a[3], a[4]);
-            case 6: return x.draw(a[0], a[1], seed);
-            case 7: return x.change(a[0], a[1]);
-            case 8: return seed % 4 == 0 ? x.cut(a[0]) : x.cut(x.many(0));
-            case 9: return x.asked(a[0]);
-            case 10: return x.many(a[0]);
-            case 11: case 12: case 13: case 14: return x.serve(a[0], a[1]);
-            case 15: return x.paid();
-            case 16: return x.hit(a[0]);
-            case 17: return x.gone(a[0]);
-            case 18: case 19: case 20: case 21: return x.look(a[0], a[1], a[2]);
-            case 22: case 23: return x.level(a[0], a[1]);
-            case 24: return x.fewest(a[0]);
-            case 25: return x.share();
-            case 26: return x.many(0) > 40 ? 0 : x.least(a[0]);
-            case 27: case 28: return x.many(0) > 40 ? 0 : x.goes(a[0], a[1]);
-            case 29: return x.phases(a[0]);
-            case 30: return x.phase(a[0], a[1]);
-            case 31: return x.distance(a[0]);
-            case 32: return x.curve(a[0]);
-            case 33: return seed % 4 == 0 ? x.hard(a[0], a[1], a[2]) : x.many(2);
-            case 34: return x.claim(a[0]);
-            case 35: return x.copy();
-            case 36: return seed % 4 == 0 ? x.unclaim() : x.many(2);
-            case 37: return x.cost(a[0]);
-            default: return x.check(a[0], a[1]);
-        }
     }
 
     /** Of one row by each way all that can be looked at, behind each asking, in a mixed order. */

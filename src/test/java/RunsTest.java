@@ -22,14 +22,6 @@ public final class RunsTest {
         Due.end();
     }
 
-    private static ShelfJudge rowOf(int... things) {
-        ShelfJudge x = new ShelfJudge();
-        for (int thing : things) {
-            x.ask(thing, -1, -1, -1, -1);
-        }
-        return x;
-    }
-
     private static void goings(String what, ShelfJudge x, int... want) {
         for (int i = 0; i < want.length; i++) {
             Due.is(what + ": gone(" + i + ")", x.gone(i), want[i]);
@@ -37,7 +29,7 @@ public final class RunsTest {
     }
 
     private static void serve() {
-        ShelfJudge x = rowOf(0, 1, 0);
+        ShelfJudge x = Rows.of(0, 1, 0);
         Due.is("9: way -1", x.serve(-1, 1), ShelfJudge.NUMBER);
         Due.is("9: way 9", x.serve(9, 1), ShelfJudge.NUMBER);
         Due.is("9: k 0", x.serve(0, 0), ShelfJudge.NUMBER);
@@ -58,7 +50,7 @@ public final class RunsTest {
     }
 
     private static void oldestAndResting() {
-        ShelfJudge x = rowOf(0, 1, 0, 2, 0);
+        ShelfJudge x = Rows.of(0, 1, 0, 2, 0);
         Due.is("9: OLDEST", x.serve(0, 2), 4);
         goings("12: OLDEST", x, -1, -1, -1, 0, 1);
         Due.is("9: RESTING", x.serve(1, 2), 3);
@@ -71,7 +63,7 @@ public final class RunsTest {
     }
 
     private static void marking() {
-        ShelfJudge x = rowOf(0, 1, 0, 2, 3, 2, 4);
+        ShelfJudge x = Rows.of(0, 1, 0, 2, 3, 2, 4);
         Due.is("9: MARKING", x.serve(2, 2), 5);
         goings("12: MARKING", x, -1, -1, -1, 1, 0, -1, 3);
         Due.is("13: what comes is MARKED", x.look(0, 0, 2), 1);
@@ -85,7 +77,7 @@ public final class RunsTest {
     }
 
     private static void clock() {
-        ShelfJudge x = rowOf(0, 1, 0, 2, 3);
+        ShelfJudge x = Rows.of(0, 1, 0, 2, 3);
         Due.is("9: CLOCK", x.serve(3, 2), 4);
         goings("12: CLOCK", x, -1, -1, -1, 1, 0);
         Due.is("13: no MARK by coming", x.look(1, 0, 2), 0);
@@ -99,7 +91,7 @@ public final class RunsTest {
         for (int i = 0; i < hand.length; i++) {
             Due.is("14: THE HAND behind " + i, x.level(i, 2), hand[i]);
         }
-        ShelfJudge y = rowOf(0, 1, 0, 1, 2);
+        ShelfJudge y = Rows.of(0, 1, 0, 1, 2);
         y.serve(3, 2);
         goings("12: CLOCK, all MARKED", y, -1, -1, -1, -1, 0);
         Due.is("13: all marks are taken", y.look(4, 1, 2), 0);
@@ -107,21 +99,21 @@ public final class RunsTest {
     }
 
     private static void rarest() {
-        ShelfJudge x = rowOf(0, 0, 1, 2, 1);
+        ShelfJudge x = Rows.of(0, 0, 1, 2, 1);
         Due.is("9: RAREST", x.serve(4, 2), 4);
         goings("12: RAREST", x, -1, -1, -1, 1, 2);
         Due.is("13: COUNT begins anew", x.look(4, 1, 1), 1);
         Due.is("13: COUNT of 0", x.look(4, 0, 1), 2);
-        ShelfJudge y = rowOf(1, 0, 1, 0, 2);
+        ShelfJudge y = Rows.of(1, 0, 1, 0, 2);
         y.serve(4, 2);
         goings("12: RAREST, of several", y, -1, -1, -1, -1, 1);
-        ShelfJudge z = rowOf(0, 1, 1, 0, 2);
+        ShelfJudge z = Rows.of(0, 1, 1, 0, 2);
         z.serve(4, 2);
         goings("12: RAREST, of several", z, -1, -1, -1, -1, 1);
     }
 
     private static void twofold() {
-        ShelfJudge x = rowOf(0, 1, 2, 1, 0);
+        ShelfJudge x = Rows.of(0, 1, 2, 1, 0);
         Due.is("9: TWOFOLD", x.serve(5, 1), 5);
         goings("12: TWOFOLD", x, -1, 0, 1, 2, 1);
         int[][] parts = {{1, 0, 0}, {3, 1, 0}, {0, 3, 1}, {0, 2, 3}, {1, 0, 3}};
@@ -131,7 +123,7 @@ public final class RunsTest {
             }
         }
         // With 4 places ONCE keeps one while TWICE has any.
-        ShelfJudge y = rowOf(0, 1, 2, 3, 0, 1, 2, 4, 5, 3);
+        ShelfJudge y = Rows.of(0, 1, 2, 3, 0, 1, 2, 4, 5, 3);
         y.serve(5, 4);
         goings("12: TWOFOLD, k 4", y, -1, -1, -1, -1, -1, -1, -1, 0, 3, 4);
         Due.is("13: 3 is in TWICE", y.look(9, 3, 4), 2);
@@ -140,7 +132,7 @@ public final class RunsTest {
     }
 
     private static void balance() {
-        ShelfJudge x = rowOf(0, 1, 2, 1, 0, 1);
+        ShelfJudge x = Rows.of(0, 1, 2, 1, 0, 1);
         Due.is("9: BALANCE", x.serve(6, 1), 6);
         goings("12: BALANCE", x, -1, 0, 1, 2, 1, 0);
         int[][] parts = {{1, 0, 0}, {3, 1, 0}, {0, 3, 1}, {0, 2, 3}, {1, 4, 3}, {3, 2, 0}};
@@ -178,7 +170,7 @@ public final class RunsTest {
     }
 
     private static void greedy() {
-        ShelfJudge x = rowOf(0, 1, 2, 1, 2, 1, 2);
+        ShelfJudge x = Rows.of(0, 1, 2, 1, 2, 1, 2);
         x.price(0, 5);
         Due.is("9: GREEDY", x.serve(7, 2), 7);
         goings("12: GREEDY", x, -1, -1, 1, 2, 1, 2, 0);
@@ -191,26 +183,26 @@ public final class RunsTest {
         Due.is("13: CREDIT of 2", x.look(6, 2, 5), 6);
         Due.is("13: CREDIT of what went", x.look(6, 0, 5), 0);
         Due.is("10: paid", x.paid(), 11);
-        ShelfJudge y = rowOf(0, 1, 2, 2);
+        ShelfJudge y = Rows.of(0, 1, 2, 2);
         y.serve(7, 2);
         Due.is("13: CREDIT by a HIT", y.look(3, 2, 5), 2);
         Due.is("12: of several the one that rests longest", y.gone(2), 0);
     }
 
     private static void ahead() {
-        ShelfJudge x = rowOf(0, 1, 2, 0, 1);
+        ShelfJudge x = Rows.of(0, 1, 2, 0, 1);
         Due.is("9: AHEAD", x.serve(8, 2), 4);
         goings("12: AHEAD", x, -1, -1, 1, -1, 0);
-        ShelfJudge y = rowOf(3, 2, 5, 3);
+        ShelfJudge y = Rows.of(3, 2, 5, 3);
         y.serve(8, 2);
         goings("12: AHEAD, not asked for any more", y, -1, -1, 2, -1);
-        ShelfJudge z = rowOf(7, 5, 6, 1, 6);
+        ShelfJudge z = Rows.of(7, 5, 6, 1, 6);
         z.serve(8, 3);
         goings("12: AHEAD, the least THING", z, -1, -1, -1, 5, -1);
     }
 
     private static void paidHitGone() {
-        ShelfJudge x = rowOf(3, 3, 4, 3);
+        ShelfJudge x = Rows.of(3, 3, 4, 3);
         Due.is("10: no run", x.paid(), ShelfJudge.STATE);
         Due.is("11: no run", x.hit(0), ShelfJudge.STATE);
         Due.is("11: no run, no such ASKING", x.hit(9), ShelfJudge.STATE);
@@ -233,7 +225,7 @@ public final class RunsTest {
     }
 
     private static void refusedLooks() {
-        ShelfJudge x = rowOf(0, 1);
+        ShelfJudge x = Rows.of(0, 1);
         Due.is("13: no run", x.look(9, 99, 99), ShelfJudge.STATE);
         int[][] whats = {{0, 1}, {0, 1}, {0, 1, 2}, {0, 1, 2, 3}, {0, 1}, {0, 1, 4}, {0, 1, 4},
             {0, 1, 5}, {0, 1}};
@@ -257,7 +249,7 @@ public final class RunsTest {
     }
 
     private static void refusedLevels() {
-        ShelfJudge x = rowOf(0, 1);
+        ShelfJudge x = Rows.of(0, 1);
         Due.is("14: no run", x.level(9, 99), ShelfJudge.STATE);
         int[] hows = {0, 0, 1, 2, 0, 0, 3, 4, 0};
         for (int way = 0; way <= 8; way++) {
@@ -276,7 +268,7 @@ public final class RunsTest {
     }
 
     private static void fewest() {
-        ShelfJudge x = rowOf(0, 1, 0, 2, 0);
+        ShelfJudge x = Rows.of(0, 1, 0, 2, 0);
         Due.is("15: k 0", x.fewest(0), ShelfJudge.NUMBER);
         Due.is("15: k 9", x.fewest(9), ShelfJudge.NUMBER);
         Due.is("15: of several the least", x.fewest(1), 0);
@@ -288,7 +280,7 @@ public final class RunsTest {
         Due.is("15: the run stays", x.paid(), 5);
         Due.is("15: the run stays", x.look(1, 0, 4), 3);
         // GREEDY alone keeps the dear one; AHEAD, which would do better, isn't asked.
-        ShelfJudge y = rowOf(0, 1, 2, 3, 0, 1, 2, 3, 0, 1, 2, 3, 0);
+        ShelfJudge y = Rows.of(0, 1, 2, 3, 0, 1, 2, 3, 0, 1, 2, 3, 0);
         y.price(0, 100);
         Due.is("15: GREEDY", y.fewest(2), 7);
     }
@@ -310,7 +302,7 @@ public final class RunsTest {
             int hits = n - y.serve(1, 1);
             Due.is("16: " + hits + " of " + n, y.share(), (int) (((float) hits / n) * 10000));
         }
-        ShelfJudge z = rowOf(0, 0, 0);
+        ShelfJudge z = Rows.of(0, 0, 0);
         z.serve(0, 1);
         Due.is("16: 2 of 3", z.share(), 6666);
         ShelfJudge w = new ShelfJudge();

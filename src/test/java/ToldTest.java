@@ -9,14 +9,6 @@ public final class ToldTest {
         Due.end();
     }
 
-    private static ShelfJudge rowOf(int... things) {
-        ShelfJudge x = new ShelfJudge();
-        for (int thing : things) {
-            x.ask(thing, -1, -1, -1, -1);
-        }
-        return x;
-    }
-
     private static void tell(ShelfJudge x, int... goings) {
         x.unclaim();
         for (int thing : goings) {
@@ -37,7 +29,7 @@ public final class ToldTest {
     }
 
     private static void copy() {
-        ShelfJudge x = rowOf(0, 1, 2, 1);
+        ShelfJudge x = Rows.of(0, 1, 2, 1);
         x.claim(5);
         Due.is("25: no run", x.copy(), ShelfJudge.STATE);
         Due.is("25: what was told stays", x.many(2), 1);
@@ -68,7 +60,7 @@ public final class ToldTest {
     }
 
     private static void cost() {
-        ShelfJudge x = rowOf(0, 1, 2, 0, 1);
+        ShelfJudge x = Rows.of(0, 1, 2, 0, 1);
         x.price(2, 30);
         Due.is("27: k 0", x.cost(0), -1);
         Due.is("27: k 9", x.cost(9), -1);
@@ -108,7 +100,7 @@ public final class ToldTest {
     }
 
     private static void check() {
-        ShelfJudge x = rowOf(0, 1, 0, 2, 0);
+        ShelfJudge x = Rows.of(0, 1, 0, 2, 0);
         Due.is("28: way -1", x.check(-1, 2), -2);
         Due.is("28: way 9", x.check(9, 2), -2);
         Due.is("28: k 0", x.check(0, 0), -2);
