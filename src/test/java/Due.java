@@ -2,8 +2,19 @@
 final class Due {
     private static int checks = 0;
     private static int wrong = 0;
+    private static String quoted = "";
 
     private Due() {
+    }
+
+    /**
+     * Quotes words of the document: the answers that are looked at next would not be as due if
+     * these were broken. The words must stand in that promise; 0 is all ahead of the first one.
+     */
+    static void sentence(int promise, String words) {
+        quoted = "";
+        that("promise " + promise + " has the words: " + words, Document.has(promise, words));
+        quoted = "[" + promise + ": " + words + "] ";
     }
 
     static void is(String what, long got, long want) {
@@ -11,7 +22,7 @@ final class Due {
         if (got != want) {
             wrong++;
             if (wrong <= 50) {
-                System.out.println(what + " answered " + got + ", due is " + want);
+                System.out.println(quoted + what + " answered " + got + ", due is " + want);
             }
         }
     }

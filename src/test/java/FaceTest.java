@@ -20,6 +20,7 @@ public final class FaceTest {
         face();
         classesInside();
         source();
+        constants();
         Due.end();
     }
 
@@ -58,10 +59,18 @@ public final class FaceTest {
             }
         }
         Due.is("constants", constants, 5);
+    }
+
+    private static void constants() {
+        Due.sentence(0, "The constants: `NUMBER = -1`: A number is none, or none that may be.");
         Due.is("NUMBER", ShelfJudge.NUMBER, -1);
+        Due.sentence(0, "`FULL = -2`: There are as many as may be.");
         Due.is("FULL", ShelfJudge.FULL, -2);
+        Due.sentence(0, "`STATE = -3`: There is no LATEST RUN, or not what is wanted.");
         Due.is("STATE", ShelfJudge.STATE, -3);
+        Due.sentence(0, "`KIND = -4`: A WAY for which that can't be.");
         Due.is("KIND", ShelfJudge.KIND, -4);
+        Due.sentence(0, "`LARGE = -5`: Too many unlike THINGS.");
         Due.is("LARGE", ShelfJudge.LARGE, -5);
     }
 

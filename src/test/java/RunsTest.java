@@ -22,12 +22,6 @@ public final class RunsTest {
         Due.end();
     }
 
-    private static void goings(String what, ShelfJudge x, int... want) {
-        for (int i = 0; i < want.length; i++) {
-            Due.is(what + ": gone(" + i + ")", x.gone(i), want[i]);
-        }
-    }
-
     private static void serve() {
         ShelfJudge x = Rows.of(0, 1, 0);
         Due.is("9: way -1", x.serve(-1, 1), ShelfJudge.NUMBER);
@@ -52,9 +46,9 @@ public final class RunsTest {
     private static void oldestAndResting() {
         ShelfJudge x = Rows.of(0, 1, 0, 2, 0);
         Due.is("9: OLDEST", x.serve(0, 2), 4);
-        goings("12: OLDEST", x, -1, -1, -1, 0, 1);
+        Rows.goings("12: OLDEST", x, -1, -1, -1, 0, 1);
         Due.is("9: RESTING", x.serve(1, 2), 3);
-        goings("12: RESTING", x, -1, -1, -1, 1, -1);
+        Rows.goings("12: RESTING", x, -1, -1, -1, 1, -1);
         Due.is("13: COUNT of 0", x.look(4, 0, 1), 3);
         Due.is("13: COUNT of 0 earlier", x.look(1, 0, 1), 1);
         Due.is("13: COUNT of what went", x.look(3, 1, 1), 0);
@@ -65,7 +59,7 @@ public final class RunsTest {
     private static void marking() {
         ShelfJudge x = Rows.of(0, 1, 0, 2, 3, 2, 4);
         Due.is("9: MARKING", x.serve(2, 2), 5);
-        goings("12: MARKING", x, -1, -1, -1, 1, 0, -1, 3);
+        Rows.goings("12: MARKING", x, -1, -1, -1, 1, 0, -1, 3);
         Due.is("13: what comes is MARKED", x.look(0, 0, 2), 1);
         Due.is("13: 2 is MARKED", x.look(3, 2, 2), 1);
         Due.is("13: 0 is no more", x.look(3, 0, 2), 0);
@@ -79,7 +73,7 @@ public final class RunsTest {
     private static void clock() {
         ShelfJudge x = Rows.of(0, 1, 0, 2, 3);
         Due.is("9: CLOCK", x.serve(3, 2), 4);
-        goings("12: CLOCK", x, -1, -1, -1, 1, 0);
+        Rows.goings("12: CLOCK", x, -1, -1, -1, 1, 0);
         Due.is("13: no MARK by coming", x.look(1, 0, 2), 0);
         Due.is("13: a MARK by a HIT", x.look(2, 0, 2), 1);
         Due.is("13: THE HAND took it", x.look(3, 0, 2), 0);
@@ -93,7 +87,7 @@ public final class RunsTest {
         }
         ShelfJudge y = Rows.of(0, 1, 0, 1, 2);
         y.serve(3, 2);
-        goings("12: CLOCK, all MARKED", y, -1, -1, -1, -1, 0);
+        Rows.goings("12: CLOCK, all MARKED", y, -1, -1, -1, -1, 0);
         Due.is("13: all marks are taken", y.look(4, 1, 2), 0);
         Due.is("14: THE HAND went round", y.level(4, 2), 1);
     }
@@ -101,21 +95,21 @@ public final class RunsTest {
     private static void rarest() {
         ShelfJudge x = Rows.of(0, 0, 1, 2, 1);
         Due.is("9: RAREST", x.serve(4, 2), 4);
-        goings("12: RAREST", x, -1, -1, -1, 1, 2);
+        Rows.goings("12: RAREST", x, -1, -1, -1, 1, 2);
         Due.is("13: COUNT begins anew", x.look(4, 1, 1), 1);
         Due.is("13: COUNT of 0", x.look(4, 0, 1), 2);
         ShelfJudge y = Rows.of(1, 0, 1, 0, 2);
         y.serve(4, 2);
-        goings("12: RAREST, of several", y, -1, -1, -1, -1, 1);
+        Rows.goings("12: RAREST, of several", y, -1, -1, -1, -1, 1);
         ShelfJudge z = Rows.of(0, 1, 1, 0, 2);
         z.serve(4, 2);
-        goings("12: RAREST, of several", z, -1, -1, -1, -1, 1);
+        Rows.goings("12: RAREST, of several", z, -1, -1, -1, -1, 1);
     }
 
     private static void twofold() {
         ShelfJudge x = Rows.of(0, 1, 2, 1, 0);
         Due.is("9: TWOFOLD", x.serve(5, 1), 5);
-        goings("12: TWOFOLD", x, -1, 0, 1, 2, 1);
+        Rows.goings("12: TWOFOLD", x, -1, 0, 1, 2, 1);
         int[][] parts = {{1, 0, 0}, {3, 1, 0}, {0, 3, 1}, {0, 2, 3}, {1, 0, 3}};
         for (int i = 0; i < parts.length; i++) {
             for (int thing = 0; thing < 3; thing++) {
@@ -125,7 +119,7 @@ public final class RunsTest {
         // With 4 places ONCE keeps one while TWICE has any.
         ShelfJudge y = Rows.of(0, 1, 2, 3, 0, 1, 2, 4, 5, 3);
         y.serve(5, 4);
-        goings("12: TWOFOLD, k 4", y, -1, -1, -1, -1, -1, -1, -1, 0, 3, 4);
+        Rows.goings("12: TWOFOLD, k 4", y, -1, -1, -1, -1, -1, -1, -1, 0, 3, 4);
         Due.is("13: 3 is in TWICE", y.look(9, 3, 4), 2);
         Due.is("13: 0 is nowhere", y.look(9, 0, 4), 0);
         Due.is("13: 4 is in THE BOOK", y.look(9, 4, 4), 3);
@@ -134,7 +128,7 @@ public final class RunsTest {
     private static void balance() {
         ShelfJudge x = Rows.of(0, 1, 2, 1, 0, 1);
         Due.is("9: BALANCE", x.serve(6, 1), 6);
-        goings("12: BALANCE", x, -1, 0, 1, 2, 1, 0);
+        Rows.goings("12: BALANCE", x, -1, 0, 1, 2, 1, 0);
         int[][] parts = {{1, 0, 0}, {3, 1, 0}, {0, 3, 1}, {0, 2, 3}, {1, 4, 3}, {3, 2, 0}};
         int[] share = {0, 0, 0, 1, 1, 0};
         for (int i = 0; i < parts.length; i++) {
@@ -173,7 +167,7 @@ public final class RunsTest {
         ShelfJudge x = Rows.of(0, 1, 2, 1, 2, 1, 2);
         x.price(0, 5);
         Due.is("9: GREEDY", x.serve(7, 2), 7);
-        goings("12: GREEDY", x, -1, -1, 1, 2, 1, 2, 0);
+        Rows.goings("12: GREEDY", x, -1, -1, 1, 2, 1, 2, 0);
         int[] level = {0, 0, 1, 2, 3, 4, 5};
         for (int i = 0; i < level.length; i++) {
             Due.is("14: THE LEVEL behind " + i, x.level(i, 4), level[i]);
@@ -192,13 +186,13 @@ public final class RunsTest {
     private static void ahead() {
         ShelfJudge x = Rows.of(0, 1, 2, 0, 1);
         Due.is("9: AHEAD", x.serve(8, 2), 4);
-        goings("12: AHEAD", x, -1, -1, 1, -1, 0);
+        Rows.goings("12: AHEAD", x, -1, -1, 1, -1, 0);
         ShelfJudge y = Rows.of(3, 2, 5, 3);
         y.serve(8, 2);
-        goings("12: AHEAD, not asked for any more", y, -1, -1, 2, -1);
+        Rows.goings("12: AHEAD, not asked for any more", y, -1, -1, 2, -1);
         ShelfJudge z = Rows.of(7, 5, 6, 1, 6);
         z.serve(8, 3);
-        goings("12: AHEAD, the least THING", z, -1, -1, -1, 5, -1);
+        Rows.goings("12: AHEAD, the least THING", z, -1, -1, -1, 5, -1);
     }
 
     private static void paidHitGone() {
@@ -217,7 +211,7 @@ public final class RunsTest {
         }
         Due.is("11: hit(-1)", x.hit(-1), -1);
         Due.is("11: hit(min)", x.hit(Integer.MIN_VALUE), -1);
-        goings("12", x, -1, -1, 3, 4, -1);
+        Rows.goings("12", x, -1, -1, 3, 4, -1);
         Due.is("12: gone(-1)", x.gone(-1), -1);
         Due.is("12: gone(max)", x.gone(Integer.MAX_VALUE), -1);
         x.serve(0, 2);
