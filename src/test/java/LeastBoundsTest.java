@@ -16,6 +16,7 @@ public final class LeastBoundsTest {
         distanceOfTheFirst();
         somethingMustGo();
         leastOfEmptyAndFull();
+        leastOfOneObject();
         leastRefusesPlaces();
         leastRefusesElevenThings();
         lesserThingGoes();
@@ -47,8 +48,8 @@ public final class LeastBoundsTest {
     }
 
     private static void phaseBeginsWithOneTooMany() {
-        Due.sentence(0, "each next one begins with the first ASKING for a THING that would be the (k + 1)-th"
-            + " unlike one of the PHASE ahead of it.");
+        Due.sentence(0, "each next one begins with the first ASKING for a THING that would be the (k"
+            + " + 1)-th unlike one of the PHASE ahead of it.");
         for (int k = 1; k <= 8; k++) {
             ShelfJudge x = Rows.of(Rows.around(48, 16));
             for (int i = 0; i < 48; i++) {
@@ -63,8 +64,8 @@ public final class LeastBoundsTest {
     }
 
     private static void distanceCountsUnlikeThings() {
-        Due.sentence(0, "DISTANCE of an ASKING: how many unlike THINGS were asked for behind the latest earlier"
-            + " ASKING for its THING, up to it, its THING too;");
+        Due.sentence(0, "DISTANCE of an ASKING: how many unlike THINGS were asked for behind the"
+            + " latest earlier ASKING for its THING, up to it, its THING too;");
         for (int things = 1; things <= 16; things++) {
             ShelfJudge x = Rows.of(Rows.around(48, things));
             for (int i = 0; i < 48; i++) {
@@ -92,8 +93,8 @@ public final class LeastBoundsTest {
     }
 
     private static void somethingMustGo() {
-        Due.sentence(0, "THE LEAST that can be paid: of all choices of what GOES, MISS by MISS (something must"
-            + " go when the SHELF is full, nothing else may come or go).");
+        Due.sentence(0, "THE LEAST that can be paid: of all choices of what GOES, MISS by MISS"
+            + " (something must go when the SHELF is full, nothing else may come or go).");
         ShelfJudge x = Rows.of(0, 1, 0);
         x.price(0, 1000);
         Due.is("1 can't be left outside", x.least(1), 2001);
@@ -121,6 +122,45 @@ public final class LeastBoundsTest {
         y.price(1, 1000);
         Due.is("the most", y.least(1), 300000);
         Due.is("both lie there", y.least(2), 2000);
+    }
+
+    /** What was found for one k or one ROW is not told for another. */
+    private static void leastOfOneObject() {
+        Due.sentence(17, "THE LEAST that can be paid for THE ROW with k PLACES.");
+        ShelfJudge x = drawnWithPrices();
+        for (int j = 0; j < 16; j++) {
+            int k = j < 8 ? j + 1 : 16 - j;
+            ShelfJudge y = drawnWithPrices();
+            Due.is("one k behind another, " + k, x.least(k), y.least(k));
+            for (int i = 290; i < 300; i++) {
+                Due.is("one k behind another, " + k + ", " + i, x.goes(k, i), y.goes(k, i));
+            }
+        }
+        for (int k = 1; k <= 8; k++) {
+            ShelfJudge z = Rows.of(Rows.around(40, 10));
+            z.least(k);
+            z.hard(0, 2, 10);
+            z.least(k);
+            z.cut(0);
+            z.price(15, 1000);
+            int[] upper = {15, 6, 14, 7, 13, 8, 12, 9, 11, 10, 15, 6, 14, 7, 13, 8, 12, 9, 11, 10};
+            Rows.add(z, upper);
+            ShelfJudge fresh = Rows.of(upper);
+            fresh.price(15, 1000);
+            Due.is("one ROW behind another, k " + k, z.least(k), fresh.least(k));
+            for (int i = 0; i < 20; i++) {
+                Due.is("one ROW behind another, k " + k + ", " + i, z.goes(k, i), fresh.goes(k, i));
+            }
+        }
+    }
+
+    private static ShelfJudge drawnWithPrices() {
+        ShelfJudge x = new ShelfJudge();
+        for (int thing = 0; thing < 10; thing++) {
+            x.price(thing, 1000 - thing * 99);
+        }
+        x.draw(300, 10, 5);
+        return x;
     }
 
     private static void leastRefusesPlaces() {
@@ -158,8 +198,8 @@ public final class LeastBoundsTest {
     }
 
     private static void lesserThingGoes() {
-        Due.sentence(18, "Of the choices by which THE LEAST is paid the one by which, where they are first"
-            + " unlike, the lesser THING goes: what goes for ASKING i;");
+        Due.sentence(18, "Of the choices by which THE LEAST is paid the one by which, where they are"
+            + " first unlike, the lesser THING goes: what goes for ASKING i;");
         goes("none is asked for any more", Rows.of(15, 0, 7), 2, -1, -1, 0);
         goes("in another order", Rows.of(0, 15, 7), 2, -1, -1, 0);
         goes("what came just now is the lesser", Rows.of(5, 9, 1, 8), 2, -1, -1, 5, 1);
@@ -337,7 +377,8 @@ public final class LeastBoundsTest {
     }
 
     private static void hardAsksForTheLeastAbsent() {
-        Due.sentence(23, "each for the least of these that doesn't lie on the SHELF by a WAY with k PLACES: n.");
+        Due.sentence(23, "each for the least of these that doesn't lie on the SHELF by a WAY with k"
+            + " PLACES: n.");
         for (int way = 0; way < 8; way++) {
             for (int k = 1; k <= 8; k++) {
                 ShelfJudge x = new ShelfJudge();

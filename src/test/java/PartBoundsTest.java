@@ -17,6 +17,7 @@ public final class PartBoundsTest {
         balanceHasTwoBooks();
         shareIsPlacesAtMost();
         shareIsNoneAtLeast();
+        shareFallsByOne();
         fromEitherBookToTwice();
         onceMayKeepTheShare();
         emptyTwiceKeepsNothing();
@@ -63,8 +64,8 @@ public final class PartBoundsTest {
     }
 
     private static void bookHasAtMostPlaces() {
-        Due.sentence(0, "THE BOOK has at most k THINGS that went from ONCE, the one that went there longest"
-            + " ago first.");
+        Due.sentence(0, "THE BOOK has at most k THINGS that went from ONCE, the one that went there"
+            + " longest ago first.");
         booksOfUnlikeThings(5);
         // 0 goes to THE BOOK, from there to TWICE and then nowhere: by its return it is in ONCE.
         ShelfJudge x = Rows.served(5, 1, 0, 1, 0, 2, 0);
@@ -101,8 +102,8 @@ public final class PartBoundsTest {
     }
 
     private static void fromTheBookToTwice() {
-        Due.sentence(0, "On a MISS first: if the THING is in THE BOOK, it is in it no more, and will be in"
-            + " TWICE.");
+        Due.sentence(0, "On a MISS first: if the THING is in THE BOOK, it is in it no more, and will"
+            + " be in TWICE.");
         for (int k = 1; k <= 8; k++) {
             for (int back = 0; back < k; back++) {
                 ShelfJudge x = Rows.served(5, k, Rows.join(Rows.around(2 * k, 16), back));
@@ -118,8 +119,8 @@ public final class PartBoundsTest {
     }
 
     private static void onceMayKeepAQuarter() {
-        Due.sentence(0, "If the SHELF is full: if ONCE has more than k / 4 (without the rest) THINGS, or"
-            + " TWICE is empty, that of ONCE which came there first goes,");
+        Due.sentence(0, "If the SHELF is full: if ONCE has more than k / 4 (without the rest) THINGS,"
+            + " or TWICE is empty, that of ONCE which came there first goes,");
         int[] quarter = {0, 0, 0, 0, 1, 1, 1, 1, 2};
         for (int k = 1; k <= 8; k++) {
             int[] come = Rows.around(k, k);
@@ -178,8 +179,8 @@ public final class PartBoundsTest {
     // ---- BALANCE
 
     private static void balanceHasTwoBooks() {
-        Due.sentence(0, "6 BALANCE: as TWOFOLD, but with two BOOKS of at most k each, for what went from ONCE"
-            + " and from TWICE, and THE SHARE (0 at first).");
+        Due.sentence(0, "6 BALANCE: as TWOFOLD, but with two BOOKS of at most k each, for what went"
+            + " from ONCE and from TWICE, and THE SHARE (0 at first).");
         booksOfUnlikeThings(6);
         for (int k = 1; k <= 8; k++) {
             ShelfJudge x = Rows.served(6, k, pairs(16));
@@ -196,8 +197,8 @@ public final class PartBoundsTest {
     }
 
     private static void shareIsPlacesAtMost() {
-        Due.sentence(0, "On a MISS first: if the THING is in the first BOOK, THE SHARE is one more (k at"
-            + " most);");
+        Due.sentence(0, "On a MISS first: if the THING is in the first BOOK, THE SHARE is one more (k"
+            + " at most);");
         for (int k = 1; k <= 8; k++) {
             // 0 to k - 1 are in the first BOOK, and k comes there when the first of them is back.
             ShelfJudge x = Rows.served(6, k,
@@ -225,6 +226,34 @@ public final class PartBoundsTest {
         for (int i = 0; i < share.length; i++) {
             Due.is("up and down: THE SHARE behind " + i, y.level(i, 3), share[i]);
         }
+        ShelfJudge z = Rows.served(6, 2, 0, 1, 2, 3, 0, 1, 0, 1);
+        int[] byOne = {0, 0, 0, 0, 1, 2, 1, 0};
+        for (int i = 0; i < byOne.length; i++) {
+            Due.is("by one: THE SHARE behind " + i, z.level(i, 3), byOne[i]);
+        }
+    }
+
+    /** From k down to 0: as long as there is one in the second BOOK it is asked for next. */
+    private static void shareFallsByOne() {
+        Due.sentence(0, "if in the second, one less (0 at least);");
+        for (int k = 1; k <= 8; k++) {
+            int[] row = Rows.join(Rows.around(2 * k, 16), Rows.around(k + 1, 16));
+            for (int share = k; share >= 0; share--) {
+                ShelfJudge x = Rows.served(6, k, row);
+                Due.is("k " + k + ": THE SHARE", x.level(row.length - 1, 3), share);
+                row = Rows.join(row, firstInPart(x, row.length - 1, SECOND_BOOK));
+            }
+            Due.is("k " + k + ": it stays at 0", Rows.served(6, k, row).level(row.length - 1, 3), 0);
+        }
+    }
+
+    private static int firstInPart(ShelfJudge x, int i, int part) {
+        int thing = 0;
+        while (thing < 15 && x.look(i, thing, 4) != part) {
+            thing++;
+        }
+        Due.is("one is in that part", x.look(i, thing, 4), part);
+        return thing;
     }
 
     private static void fromEitherBookToTwice() {
@@ -243,9 +272,9 @@ public final class PartBoundsTest {
     }
 
     private static void onceMayKeepTheShare() {
-        Due.sentence(0, "If the SHELF is full: if ONCE has more THINGS than THE SHARE, or TWICE is empty, that"
-            + " of ONCE goes which came there first (to the end of the first BOOK, as above), else that of TWICE"
-            + " which rests longest (to the end of the second BOOK).");
+        Due.sentence(0, "If the SHELF is full: if ONCE has more THINGS than THE SHARE, or TWICE is"
+            + " empty, that of ONCE goes which came there first (to the end of the first BOOK, as"
+            + " above), else that of TWICE which rests longest (to the end of the second BOOK).");
         // THE SHARE is 1 by the second 0. ONCE has 2 when 5 comes, 1 when 6 comes, 2 when 7 comes.
         ShelfJudge x = Rows.served(6, 4, 0, 1, 2, 3, 4, 0, 2, 5, 4, 6, 7);
         Rows.goings("around THE SHARE", x, -1, -1, -1, -1, 0, 1, -1, 3, -1, 0, 5);
@@ -265,8 +294,8 @@ public final class PartBoundsTest {
     }
 
     private static void emptyTwiceKeepsNothing() {
-        Due.sentence(0, "or TWICE is empty, that of ONCE goes which came there first (to the end of the first"
-            + " BOOK, as above),");
+        Due.sentence(0, "or TWICE is empty, that of ONCE goes which came there first (to the end of"
+            + " the first BOOK, as above),");
         // THE SHARE is 1 by the second 0, and ONCE has no more than that; but TWICE is empty.
         ShelfJudge x = Rows.served(6, 1, 0, 1, 0);
         Rows.goings("k 1", x, -1, 0, 1);
@@ -300,8 +329,8 @@ public final class PartBoundsTest {
     }
 
     private static void levelAndCredit() {
-        Due.sentence(0, "7 GREEDY: THE LEVEL is 0 at first; a THING that comes or is HIT has as its CREDIT THE"
-            + " LEVEL and its PRICE.");
+        Due.sentence(0, "7 GREEDY: THE LEVEL is 0 at first; a THING that comes or is HIT has as its"
+            + " CREDIT THE LEVEL and its PRICE.");
         ShelfJudge x = greedy(2, new int[] {1000, 1, 3}, 0, 0, 1, 1, 2, 0, 2);
         int[] level = {0, 0, 0, 0, 1, 1, 1};
         int[] ofNought = {1000, 1000, 1000, 1000, 1000, 1001, 1001};
@@ -336,8 +365,8 @@ public final class PartBoundsTest {
     }
 
     private static void largestCredits() {
-        Due.sentence(0, "That with the least CREDIT goes, of several the one that rests longest; THE LEVEL"
-            + " becomes its CREDIT.");
+        Due.sentence(0, "That with the least CREDIT goes, of several the one that rests longest; THE"
+            + " LEVEL becomes its CREDIT.");
         ShelfJudge x = greedy(1, new int[] {1000, 1000}, Rows.around(300, 2));
         Due.is("the highest LEVEL", x.level(299, 4), 299000);
         Due.is("the most CREDIT", x.look(299, 1, 5), 300000);

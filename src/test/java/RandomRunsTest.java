@@ -1,4 +1,3 @@
-import java.lang.reflect.Method;
 import java.util.ArrayList;
 import java.util.Arrays;
 import java.util.List;
@@ -15,7 +14,7 @@ public final class RandomRunsTest {
         "level", "level", "fewest", "share", "least", "goes", "goes", "phases", "phase", "distance",
         "curve", "hard", "claim", "copy", "unclaim", "cost", "check", "check"};
 
-    public static void main(String[] args) throws ReflectiveOperationException {
+    public static void main(String[] args) {
         for (int run = 0; run < RUNS; run++) {
             compareRun(run);
         }
@@ -30,7 +29,7 @@ public final class RandomRunsTest {
     }
 
     /** At most 512 calls on one object, most of them with arguments that may be. */
-    private static void compareRun(int run) throws ReflectiveOperationException {
+    private static void compareRun(int run) {
         Random random = new Random(run);
         ShelfJudge x = new ShelfJudge();
         NaiveJudge y = new NaiveJudge();
@@ -42,8 +41,7 @@ public final class RandomRunsTest {
             if (isKeptRare(name) && random.nextInt(4) != 0 || isTooSlow(name, y)) {
                 name = "many";
             }
-            Method naive = methodOf(NaiveJudge.class, name);
-            Object[] a = new Object[naive.getParameterCount()];
+            Object[] a = new Object[Calls.parameters(name)];
             for (int n = 0; n < a.length; n++) {
                 a[n] = argument(random, things);
             }
@@ -53,8 +51,8 @@ public final class RandomRunsTest {
             if (name.equals("draw")) {
                 a[2] = random.nextInt();
             }
-            int want = (Integer) naive.invoke(y, a);
-            int got = (Integer) methodOf(ShelfJudge.class, name).invoke(x, a);
+            int want = Calls.answer(y, name, a);
+            int got = Calls.answer(x, name, a);
             told.append(name).append(Arrays.toString(a)).append(' ');
             Due.is("run " + run + ", call " + j + ": " + told, got, want);
             if (got != want) {
@@ -70,15 +68,6 @@ public final class RandomRunsTest {
 
     private static boolean isTooSlow(String name, NaiveJudge y) {
         return (name.equals("least") || name.equals("goes")) && y.many(0) > 40;
-    }
-
-    private static Method methodOf(Class<?> c, String name) {
-        for (Method m : c.getDeclaredMethods()) {
-            if (m.getName().equals(name)) {
-                return m;
-            }
-        }
-        throw new IllegalArgumentException(name);
     }
 
     private static int argument(Random random, int things) {
@@ -106,66 +95,90 @@ public final class RandomRunsTest {
         Random random = new Random(seed);
         int things = 2 + random.nextInt(15);
         int n = seed % 10 == 0 ? 300 : 10 + random.nextInt(60);
-        ShelfJudge x = new ShelfJudge();
+        int[] prices = new int[16];
         NaiveJudge y = new NaiveJudge();
         for (int thing = 0; thing < 16; thing++) {
-            int price = seed % 3 == 0 ? 1 : 1 + random.nextInt(seed % 3 == 1 ? 4 : 1000);
-            Due.is("price", x.price(thing, price), y.price(thing, price));
+            prices[thing] = seed % 3 == 0 ? 1 : 1 + random.nextInt(seed % 3 == 1 ? 4 : 1000);
+            y.price(thing, prices[thing]);
         }
-        Due.is("draw", x.draw(n, things, seed), y.draw(n, things, seed));
+        y.draw(n, things, seed);
         for (int way = 0; way <= 8; way++) {
             int k = 1 + random.nextInt(8);
             String name = "seed " + seed + ", way " + way + ", k " + k;
+            ShelfJudge x = drawn(n, things, seed, prices);
             Due.is(name + ": serve", x.serve(way, k), y.serve(way, k));
             Due.is(name + ": paid", x.paid(), y.paid());
             Due.is(name + ": share", x.share(), y.share());
             for (int i = 0; i < n; i++) {
                 Due.is(name + ": hit(" + i + ")", x.hit(i), y.hit(i));
+            }
+            x = drawn(n, things, seed, prices);
+            x.serve(way, k);
+            for (int i = 0; i < n; i++) {
                 Due.is(name + ": gone(" + i + ")", x.gone(i), y.gone(i));
             }
-            for (int j = 0; j < 40; j++) {
-                int i = random.nextInt(n);
-                for (int thing = 0; thing < 16; thing++) {
-                    for (int what = 0; what <= 5; what++) {
-                        Due.is(name + ": look(" + i + ", " + thing + ", " + what + ")",
-                            x.look(i, thing, what), y.look(i, thing, what));
-                    }
-                }
-                for (int how = 0; how <= 4; how++) {
-                    Due.is(name + ": level(" + i + ", " + how + ")", x.level(i, how), y.level(i, how));
+            // Four moments to an object, as it has but 512 calls.
+            for (int j = 0; j < 10; j++) {
+                x = drawn(n, things, seed, prices);
+                x.serve(way, k);
+                for (int moment = 0; moment < 4; moment++) {
+                    compareMoment(name, x, y, random.nextInt(n));
                 }
             }
+        }
+    }
+
+    private static ShelfJudge drawn(int n, int things, int seed, int[] prices) {
+        ShelfJudge x = new ShelfJudge();
+        for (int thing = 0; thing < 16; thing++) {
+            x.price(thing, prices[thing]);
+        }
+        x.draw(n, things, seed);
+        return x;
+    }
+
+    private static void compareMoment(String name, ShelfJudge x, NaiveJudge y, int i) {
+        for (int thing = 0; thing < 16; thing++) {
+            for (int what = 0; what <= 5; what++) {
+                Due.is(name + ": look(" + i + ", " + thing + ", " + what + ")",
+                    x.look(i, thing, what), y.look(i, thing, what));
+            }
+        }
+        for (int how = 0; how <= 4; how++) {
+            Due.is(name + ": level(" + i + ", " + how + ")", x.level(i, how), y.level(i, how));
         }
     }
 
     /** What must hold of any row: RESTING misses as the curve says, and nothing pays less than least. */
     private static void lawsOfWays(int seed) {
         Random random = new Random(seed);
-        ShelfJudge x = new ShelfJudge();
         int n = seed % 6 == 0 ? 300 : 1 + random.nextInt(100);
-        x.draw(n, 1 + random.nextInt(10), seed);
+        int things = 1 + random.nextInt(10);
+        int[] prices = new int[16];
+        Arrays.fill(prices, 1);
         for (int k = 1; k <= 8; k++) {
+            ShelfJudge x = drawn(n, things, seed, prices);
             Due.is("RESTING is the curve", x.serve(1, k), x.curve(k));
             Due.is("AHEAD pays the least at one price", x.serve(8, k), x.least(k));
         }
-        for (int thing = 0; thing < 10; thing++) {
-            x.price(thing, 1 + random.nextInt(1000));
-        }
+        Arrays.setAll(prices, thing -> 1 + random.nextInt(1000));
+        int withOneFewer = Integer.MAX_VALUE;
         for (int k = 1; k <= 8; k++) {
+            ShelfJudge x = drawn(n, things, seed, prices);
             int least = x.least(k);
             for (int way = 0; way <= 8; way++) {
                 x.serve(way, k);
                 Due.that("no way pays less", x.paid() >= least);
             }
-            x.unclaim();
-            for (int i = 0; i < Math.min(n, 40); i++) {
-                x.claim(x.goes(k, i));
-            }
-            if (n <= 40) {
+            if (n <= 200) {
+                for (int i = 0; i < n; i++) {
+                    x.claim(x.goes(k, i));
+                }
                 Due.is("what goes costs the least", x.cost(k), least);
             }
+            Due.that("a place more costs no more", least <= withOneFewer);
+            withOneFewer = least;
         }
-        Due.is("room for all", x.least(8) >= x.least(7) ? x.least(7) : x.least(8), x.least(8));
     }
 
     /** The least and its first choice, found by walking through every choice there is. */

@@ -282,8 +282,8 @@ public final class RowBoundsTest {
     }
 
     private static void drawHasNoSign() {
-        Due.sentence(4, "the THING is what (x / 65536, of the int's highest 16 bits as a number of 16 bits"
-            + " without sign) leaves by m: how many it has.");
+        Due.sentence(4, "the THING is what (x / 65536, of the int's highest 16 bits as a number of 16"
+            + " bits without sign) leaves by m: how many it has.");
         for (int m = 1; m <= 16; m++) {
             ShelfJudge x = new ShelfJudge();
             x.draw(1, m, 2);
@@ -445,8 +445,8 @@ public final class RowBoundsTest {
     }
 
     private static void manyOfEmpty() {
-        Due.sentence(8, "How many: what = 0 ASKINGS, 1 unlike THINGS in THE ROW, 2 TOLD GOINGS,"
-            + " 3 the sum of all PRICES of THE ROW's ASKINGS;");
+        Due.sentence(8, "How many: what = 0 ASKINGS, 1 unlike THINGS in THE ROW, 2 TOLD GOINGS, 3 the"
+            + " sum of all PRICES of THE ROW's ASKINGS;");
         ShelfJudge x = Rows.of(4, 4);
         x.cut(0);
         for (int what = 0; what <= 3; what++) {
@@ -455,8 +455,8 @@ public final class RowBoundsTest {
     }
 
     private static void manyOfFull() {
-        Due.sentence(8, "How many: what = 0 ASKINGS, 1 unlike THINGS in THE ROW, 2 TOLD GOINGS,"
-            + " 3 the sum of all PRICES of THE ROW's ASKINGS;");
+        Due.sentence(8, "How many: what = 0 ASKINGS, 1 unlike THINGS in THE ROW, 2 TOLD GOINGS, 3 the"
+            + " sum of all PRICES of THE ROW's ASKINGS;");
         ShelfJudge x = Rows.full(16);
         Due.is("ASKINGS", x.many(0), 300);
         Due.is("all THINGS", x.many(1), 16);

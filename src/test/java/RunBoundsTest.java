@@ -201,8 +201,8 @@ public final class RunBoundsTest {
     // ---- promise 13
 
     private static void lookLies() {
-        Due.sentence(13, "THE LATEST RUN as it stood behind ASKING i: of a THING what = 0: 1 if it lies there,"
-            + " else 0;");
+        Due.sentence(13, "THE LATEST RUN as it stood behind ASKING i: of a THING what = 0: 1 if it"
+            + " lies there, else 0;");
         for (int way = 0; way <= 8; way++) {
             ShelfJudge x = Rows.served(way, 1, Rows.around(300, 16));
             // Forth and back, as each looks at another moment of the same run.
@@ -254,8 +254,8 @@ public final class RunBoundsTest {
     }
 
     private static void lookPart() {
-        Due.sentence(13, "4: 1 in ONCE, 2 in TWICE, 3 in the first BOOK, 4 in the second one, 0 in none"
-            + " (TWOFOLD, BALANCE);");
+        Due.sentence(13, "4: 1 in ONCE, 2 in TWICE, 3 in the first BOOK, 4 in the second one, 0 in"
+            + " none (TWOFOLD, BALANCE);");
         // 1 comes from the first BOOK, so that 2 goes there; then 1 goes from TWICE.
         int[] row = {0, 1, 2, 1, 0};
         int[][] once = {{1, 0, 0}, {3, 1, 0}, {0, 3, 1}, {0, 2, 3}, {1, 0, 3}};
@@ -300,7 +300,8 @@ public final class RunBoundsTest {
     }
 
     private static void lookOfNone() {
-        Due.sentence(13, "NUMBER is answered as -2^31: there is no such ASKING, no such THING, another what;");
+        Due.sentence(13, "NUMBER is answered as -2^31: there is no such ASKING, no such THING,"
+            + " another what;");
         int[] sizes = {0, 1, 299, 300};
         int[] noWhats = {-1, 6, MIN, MAX};
         for (int way = 0; way <= 8; way++) {
@@ -341,7 +342,8 @@ public final class RunBoundsTest {
     // ---- promise 14
 
     private static void levelLying() {
-        Due.sentence(14, "THE LATEST RUN as it stood behind ASKING i: how = 0 how many THINGS lay there,");
+        Due.sentence(14, "THE LATEST RUN as it stood behind ASKING i: how = 0 how many THINGS lay"
+            + " there,");
         for (int way = 0; way <= 8; way++) {
             for (int k = 1; k <= 8; k++) {
                 ShelfJudge x = Rows.served(way, k, Rows.around(300, 16));
@@ -354,8 +356,8 @@ public final class RunBoundsTest {
     }
 
     private static void levelOfWays() {
-        Due.sentence(14, "1 how many ROUNDS ended (MARKING), 2 THE HAND (CLOCK), 3 THE SHARE (BALANCE), 4 THE"
-            + " LEVEL (GREEDY).");
+        Due.sentence(14, "1 how many ROUNDS ended (MARKING), 2 THE HAND (CLOCK), 3 THE SHARE"
+            + " (BALANCE), 4 THE LEVEL (GREEDY).");
         ShelfJudge x = Rows.served(2, 1, Rows.around(300, 16));
         Due.is("ROUNDS behind 0", x.level(0, 1), 0);
         Due.is("ROUNDS behind 299", x.level(299, 1), 299);
@@ -419,11 +421,12 @@ public final class RunBoundsTest {
     // ---- promise 15
 
     private static void fewestOfEachWay() {
-        Due.sentence(15, "Of the WAYS 0 to 7 the one with the fewest MISSES for THE ROW with k PLACES, of several"
-            + " the least.");
+        Due.sentence(15, "Of the WAYS 0 to 7 the one with the fewest MISSES for THE ROW with k"
+            + " PLACES, of several the least.");
         // By each of these rows one way alone has the fewest; but MARKING always chooses as RESTING
         // does, and so does GREEDY where all PRICES are the same.
         Due.is("OLDEST", Rows.of(2, 0, 2, 1, 0).fewest(2), 0);
+        Due.is("OLDEST as RAREST, though its last is a MISS", Rows.of(2, 2, 0, 1, 0, 2).fewest(2), 0);
         Due.is("RESTING, MARKING and GREEDY", Rows.of(0, 1, 0, 2, 0).fewest(2), 1);
         Due.is("CLOCK", Rows.of(3, 3, 2, 5, 3, 0, 1, 0).fewest(2), 3);
         Due.is("RAREST", Rows.of(0, 1, 1, 3, 0, 2, 1).fewest(2), 4);

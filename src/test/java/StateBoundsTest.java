@@ -70,11 +70,32 @@ public final class StateBoundsTest {
         return x;
     }
 
+    private static ShelfJudge fullTold() {
+        ShelfJudge x = full(9);
+        x.cut(5);
+        return x;
+    }
+
+    private static ShelfJudge eleven() {
+        ShelfJudge x = withRow(Rows.around(13, 11));
+        x.claim(-1);
+        x.claim(4);
+        return x;
+    }
+
     private static ShelfJudge emptyRun() {
-        return Rows.served(3, 8);
+        ShelfJudge x = Rows.served(3, 8);
+        x.claim(-1);
+        x.claim(4);
+        return x;
     }
 
     // ---- refused calls
+
+    private static void quoteRefused() {
+        Due.sentence(0, "A call that is refused (answers below 0, where not told otherwise) changes"
+            + " nothing.");
+    }
 
     private static void inAnyState(String what, ToIntFunction<ShelfJudge> call, int want) {
         Twins.unchanged(what + ", new", ShelfJudge::new, call, want);
@@ -88,7 +109,7 @@ public final class StateBoundsTest {
     }
 
     private static void refusedInAnyState() {
-        Due.sentence(0, "A call that is refused (answers below 0, where not told otherwise) changes nothing.");
+        quoteRefused();
         refusedOfRow();
         refusedOfPlaces();
         refusedOfHard();
@@ -162,7 +183,7 @@ public final class StateBoundsTest {
     }
 
     private static void refusedWithoutRun() {
-        Due.sentence(0, "A call that is refused (answers below 0, where not told otherwise) changes nothing.");
+        quoteRefused();
         withoutRun("new", ShelfJudge::new);
         withoutRun("told", StateBoundsTest::withTold);
     }
@@ -178,7 +199,7 @@ public final class StateBoundsTest {
     }
 
     private static void refusedWithRun() {
-        Due.sentence(0, "A call that is refused (answers below 0, where not told otherwise) changes nothing.");
+        quoteRefused();
         int n = SOME_ROW.length;
         for (int way = 0; way <= 8; way++) {
             int by = way;
@@ -202,7 +223,7 @@ public final class StateBoundsTest {
     }
 
     private static void refusedKinds() {
-        Due.sentence(0, "A call that is refused (answers below 0, where not told otherwise) changes nothing.");
+        quoteRefused();
         int last = SOME_ROW.length - 1;
         int[] noWhat = {2, 3, 4, 4, 5, 5, 3, 4, 2};
         int[] noHow = {1, 2, 3, 4, 1, 3, 4, 1, 2};
@@ -219,31 +240,44 @@ public final class StateBoundsTest {
     }
 
     private static void refusedWhenFull() {
-        Due.sentence(0, "A call that is refused (answers below 0, where not told otherwise) changes nothing.");
-        Supplier<ShelfJudge> maker = () -> full(9);
-        Twins.unchanged("ask(5, -1, ..)", maker, x -> x.ask(5, -1, -1, -1, -1), FULL);
-        Twins.unchanged("ask(5, 6, 7, 8, 9)", maker, x -> x.ask(5, 6, 7, 8, 9), FULL);
-        Twins.unchanged("draw(1, 5, 1)", maker, x -> x.draw(1, 5, 1), FULL);
-        Twins.unchanged("draw(300, 16, 1)", maker, x -> x.draw(300, 16, 1), FULL);
-        Twins.unchanged("claim(-1)", maker, x -> x.claim(-1), FULL);
-        Twins.unchanged("claim(15)", maker, x -> x.claim(15), FULL);
+        quoteRefused();
+        refusedByFullRow("with a run", () -> full(9));
+        refusedByFullRow("without a run", () -> withRow(Rows.around(300, 9)));
+        refusedByFullTold("with a run", () -> full(9));
+        refusedByFullTold("with a short ROW", StateBoundsTest::fullTold);
         Supplier<ShelfJudge> almost = () -> Rows.served(2, 3, Rows.around(299, 9));
         Twins.unchanged("two to 299", almost, x -> x.ask(5, 6, -1, -1, -1), FULL);
         Twins.unchanged("two drawn to 299", almost, x -> x.draw(2, 5, 1), FULL);
     }
 
+    private static void refusedByFullRow(String state, Supplier<ShelfJudge> maker) {
+        Twins.unchanged("ask(5, -1, ..), " + state, maker, x -> x.ask(5, -1, -1, -1, -1), FULL);
+        Twins.unchanged("ask(5, 6, 7, 8, 9), " + state, maker, x -> x.ask(5, 6, 7, 8, 9), FULL);
+        Twins.unchanged("draw(1, 5, 1), " + state, maker, x -> x.draw(1, 5, 1), FULL);
+        Twins.unchanged("draw(300, 16, 1), " + state, maker, x -> x.draw(300, 16, 1), FULL);
+    }
+
+    private static void refusedByFullTold(String state, Supplier<ShelfJudge> maker) {
+        Twins.unchanged("claim(-1), " + state, maker, x -> x.claim(-1), FULL);
+        Twins.unchanged("claim(15), " + state, maker, x -> x.claim(15), FULL);
+    }
+
     private static void refusedWhenLarge() {
-        Due.sentence(0, "A call that is refused (answers below 0, where not told otherwise) changes nothing.");
-        Supplier<ShelfJudge> maker = () -> full(11);
+        quoteRefused();
+        refusedByEleven("with a run", () -> full(11));
+        refusedByEleven("without a run", StateBoundsTest::eleven);
+    }
+
+    private static void refusedByEleven(String state, Supplier<ShelfJudge> maker) {
         for (int k = 1; k <= 8; k += 7) {
             int places = k;
-            Twins.unchanged("least(" + k + ")", maker, x -> x.least(places), LARGE);
-            Twins.unchanged("goes(" + k + ", 20)", maker, x -> x.goes(places, 20), -1);
+            Twins.unchanged("least(" + k + "), " + state, maker, x -> x.least(places), LARGE);
+            Twins.unchanged("goes(" + k + ", 12), " + state, maker, x -> x.goes(places, 12), -1);
         }
     }
 
     private static void refusedWhenEmpty() {
-        Due.sentence(0, "A call that is refused (answers below 0, where not told otherwise) changes nothing.");
+        quoteRefused();
         Supplier<ShelfJudge> maker = StateBoundsTest::emptyRun;
         Twins.unchanged("share()", maker, x -> x.share(), NUMBER);
         Twins.unchanged("hit(0)", maker, x -> x.hit(0), -1);
@@ -276,8 +310,12 @@ public final class StateBoundsTest {
 
     // ---- the first one named
 
-    private static void firstNamedOfRow() {
+    private static void quoteFirstNamed() {
         Due.sentence(0, "Of several refusals that a call names the first one named is answered.");
+    }
+
+    private static void firstNamedOfRow() {
+        quoteFirstNamed();
         ShelfJudge x = Rows.full(16);
         Due.is("ask: NUMBER, FULL", x.ask(0, 0, 0, 0, 16), NUMBER);
         Due.is("ask: NUMBER, FULL", x.ask(-2, -1, -1, -1, -1), NUMBER);
@@ -289,7 +327,7 @@ public final class StateBoundsTest {
     }
 
     private static void firstNamedOfRuns() {
-        Due.sentence(0, "Of several refusals that a call names the first one named is answered.");
+        quoteFirstNamed();
         ShelfJudge x = new ShelfJudge();
         Due.is("hit: STATE, NUMBER", x.hit(0), STATE);
         Due.is("hit: STATE, NUMBER", x.hit(-1), STATE);
@@ -317,7 +355,7 @@ public final class StateBoundsTest {
     }
 
     private static void firstNamedOfLeast() {
-        Due.sentence(0, "Of several refusals that a call names the first one named is answered.");
+        quoteFirstNamed();
         ShelfJudge x = Rows.full(11);
         Due.is("least: NUMBER, LARGE", x.least(0), NUMBER);
         Due.is("least: NUMBER, LARGE", x.least(9), NUMBER);
@@ -330,7 +368,7 @@ public final class StateBoundsTest {
     }
 
     private static void firstNamedOfTold() {
-        Due.sentence(0, "Of several refusals that a call names the first one named is answered.");
+        quoteFirstNamed();
         ShelfJudge x = full(16);
         Due.is("claim: NUMBER, FULL", x.claim(-2), NUMBER);
         Due.is("claim: NUMBER, FULL", x.claim(16), NUMBER);
@@ -341,7 +379,8 @@ public final class StateBoundsTest {
     // ---- THE LATEST RUN
 
     private static void latestRunIsTheLatestServe() {
-        Due.sentence(0, "THE LATEST RUN is the latest serve() that wasn't refused, with all that it was by;");
+        Due.sentence(0, "THE LATEST RUN is the latest serve() that wasn't refused, with all that it"
+            + " was by;");
         for (int first = 0; first <= 8; first++) {
             for (int second = 0; second <= 8; second++) {
                 ShelfJudge x = withRun(first);
@@ -404,8 +443,8 @@ public final class StateBoundsTest {
     }
 
     private static void runIsForgotten() {
-        Due.sentence(0, "it is forgotten by each price(), ask(), draw(), change(), cut() and hard() that isn't"
-            + " refused");
+        Due.sentence(0, "it is forgotten by each price(), ask(), draw(), change(), cut() and hard()"
+            + " that isn't refused");
         forgets("price(0, 5)", x -> x.price(0, 5), 1);
         forgets("ask(1, ..)", x -> x.ask(1, -1, -1, -1, -1), 13);
         forgets("draw(1, 5, 0)", x -> x.draw(1, 5, 0), 13);
@@ -486,8 +525,8 @@ public final class StateBoundsTest {
     }
 
     private static void lastCallOfAnObject() {
-        Due.sentence(0, "An object is used for at most 512 calls after it has been made; what later calls answer"
-            + " is free.");
+        Due.sentence(0, "An object is used for at most 512 calls after it has been made; what later"
+            + " calls answer is free.");
         ShelfJudge x = new ShelfJudge();
         int calls = 0;
         for (; calls < 300; calls++) {

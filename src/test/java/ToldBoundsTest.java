@@ -27,6 +27,7 @@ public final class ToldBoundsTest {
         checkTellsTheFirst();
         checkOfMore();
         checkOfFewer();
+        earlierTellingDoesNotCount();
         checkRefusesNumbers();
         Due.end();
     }
@@ -49,8 +50,8 @@ public final class ToldBoundsTest {
     // ---- promise 24
 
     private static void toldAreThingsOrNothing() {
-        Due.sentence(0, "THE TOLD GOINGS are THINGS (or -1: nothing), one for each ASKING from 0 on, at most"
-            + " 300.");
+        Due.sentence(0, "THE TOLD GOINGS are THINGS (or -1: nothing), one for each ASKING from 0 on,"
+            + " at most 300.");
         ShelfJudge x = Rows.of(Rows.around(17, 16));
         tell(x, -1, 0, 1, 2, 3, 4, 5, 6, 7, 8, 9, 10, 11, 12, 13, 14, 15);
         Due.is("each THING", x.cost(1), 17);
@@ -167,8 +168,8 @@ public final class ToldBoundsTest {
     // ---- promise 27
 
     private static void costOfEmptyAndDearest() {
-        Due.sentence(27, "What TOLD GOINGS would cost: with k PLACES, MISS by MISS the told THING goes: what is"
-            + " paid for THE ROW.");
+        Due.sentence(27, "What TOLD GOINGS would cost: with k PLACES, MISS by MISS the told THING"
+            + " goes: what is paid for THE ROW.");
         for (int k = 1; k <= 8; k++) {
             Due.is("an empty ROW, nothing told, k " + k, new ShelfJudge().cost(k), 0);
         }
@@ -244,8 +245,8 @@ public final class ToldBoundsTest {
     }
 
     private static void costOfFewerOrMore() {
-        Due.sentence(27, "(they are fewer, or more, than THE ROW's ASKINGS: the first number that the one has and"
-            + " the other hasn't;");
+        Due.sentence(27, "(they are fewer, or more, than THE ROW's ASKINGS: the first number that the"
+            + " one has and the other hasn't;");
         ShelfJudge x = new ShelfJudge();
         x.claim(-1);
         Due.is("one for no ASKING", x.cost(1), -2);
@@ -400,6 +401,31 @@ public final class ToldBoundsTest {
         y.copy();
         y.ask(0, -1, -1, -1, -1);
         Due.is("299 for 300", y.check(0, 2), 299);
+    }
+
+    /** What was told once and taken back, or stood behind a shorter copy, is told no more. */
+    private static void earlierTellingDoesNotCount() {
+        Due.sentence(26, "THE TOLD GOINGS are nothing:");
+        ShelfJudge x = Rows.of(0, 1, 0);
+        tell(x, -1, -1, -1);
+        Due.is("all", x.check(0, 2), -1);
+        for (int n = 0; n < 3; n++) {
+            tell(x, -1, -1, -1);
+            x.unclaim();
+            for (int j = 0; j < n; j++) {
+                x.claim(-1);
+            }
+            Due.is("check of " + n, x.check(0, 2), n);
+            Due.is("cost of " + n, x.cost(2), -2 - n);
+        }
+        ShelfJudge y = Rows.served(0, 1, 0, 1, 0);
+        y.copy();
+        y.cut(2);
+        y.serve(0, 1);
+        y.copy();
+        y.ask(0, -1, -1, -1, -1);
+        Due.is("check behind a shorter copy", y.check(0, 1), 2);
+        Due.is("cost behind a shorter copy", y.cost(1), -4);
     }
 
     private static void checkRefusesNumbers() {

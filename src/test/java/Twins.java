@@ -114,7 +114,7 @@ final class Twins {
         return all;
     }
 
-    /** What comes next to THE ROW comes to the same end of it. */
+    /** What comes next to THE ROW comes to the same end of it, and meets the same TOLD GOINGS. */
     private static List<Integer> endsOf(ShelfJudge x) {
         List<Integer> all = new ArrayList<>();
         all.add(x.ask(15, 14, -1, -1, -1));
@@ -125,6 +125,8 @@ final class Twins {
         }
         all.add(x.asked(298));
         all.add(x.asked(299));
+        all.add(x.cost(8));
+        all.add(x.check(8, 8));
         all.add(x.serve(8, 3));
         all.add(x.paid());
         return all;

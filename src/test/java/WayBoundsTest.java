@@ -80,8 +80,8 @@ public final class WayBoundsTest {
     }
 
     private static void missPaysAndComes() {
-        Due.sentence(0, "an ASKING for a THING that lies there is a HIT; else it is a MISS: its PRICE is"
-            + " paid,");
+        Due.sentence(0, "an ASKING for a THING that lies there is a HIT; else it is a MISS: its PRICE"
+            + " is paid,");
         for (int way = 0; way <= 8; way++) {
             ShelfJudge x = Rows.of(2, 2, 5, 2, 5);
             x.price(2, 1000);
@@ -116,8 +116,8 @@ public final class WayBoundsTest {
     }
 
     private static void countBeginsWithTheComing() {
-        Due.sentence(0, "COUNT of a THING that lies there: how often it was asked for since it came (the"
-            + " ASKING by which it came counts, too).");
+        Due.sentence(0, "COUNT of a THING that lies there: how often it was asked for since it came"
+            + " (the ASKING by which it came counts, too).");
         for (int way = 0; way <= 8; way++) {
             ShelfJudge x = Rows.served(way, 1, 6, 6, 7, 6);
             int[] six = {1, 2, 0, 1};
@@ -273,8 +273,8 @@ public final class WayBoundsTest {
     }
 
     private static void handGoesOnPastMarks() {
-        Due.sentence(0, "When one must go: as long as that at THE HAND is MARKED, it is MARKED no more, and"
-            + " THE HAND goes on by one (from k - 1 to 0);");
+        Due.sentence(0, "When one must go: as long as that at THE HAND is MARKED, it is MARKED no"
+            + " more, and THE HAND goes on by one (from k - 1 to 0);");
         for (int k = 1; k <= 8; k++) {
             for (int marked = 0; marked <= k; marked++) {
                 int[] row = Rows.join(Rows.around(k, k), Rows.around(marked, k));
@@ -301,8 +301,8 @@ public final class WayBoundsTest {
     }
 
     private static void whatLiesAtTheHandGoes() {
-        Due.sentence(0, "what lies at THE HAND goes, what comes lies in its PLACE, not MARKED, and THE HAND"
-            + " goes on by one.");
+        Due.sentence(0, "what lies at THE HAND goes, what comes lies in its PLACE, not MARKED, and"
+            + " THE HAND goes on by one.");
         for (int k = 1; k <= 8; k++) {
             ShelfJudge x = Rows.served(3, k, Rows.around(32, 16));
             for (int i = k; i < 32; i++) {
