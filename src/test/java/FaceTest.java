@@ -4,24 +4,86 @@ import java.lang.reflect.Method;
 import java.lang.reflect.Modifier;
 import java.nio.file.Files;
 import java.nio.file.Path;
+import java.util.ArrayList;
 import java.util.List;
 import java.util.Set;
 import java.util.TreeSet;
+import java.util.regex.Matcher;
+import java.util.regex.Pattern;
 
 /** The public face as the document has it, and what LANGUAGE.md lets a test see of the source. */
 public final class FaceTest {
-    private static final List<String> METHODS = List.of(
-        "price 2", "ask 5", "draw 3", "change 2", "cut 1", "asked 1", "many 1", "serve 2", "paid 0",
-        "hit 1", "gone 1", "look 3", "level 2", "fewest 1", "share 0", "least 1", "goes 2",
-        "phases 1", "phase 2", "distance 1", "curve 1", "hard 3", "claim 1", "copy 0", "unclaim 0",
-        "cost 1", "check 2");
+    private static final Path SOURCE = Document.root().resolve("src/main/java/ShelfJudge.java");
+    private static final List<String> FACE = faceOfDocument();
+    private static final Set<String> METHODS = methodsOf(FACE);
 
     public static void main(String[] args) throws Exception {
         face();
+        order();
+        dividingLines();
+        staticFields();
         classesInside();
         source();
         constants();
         Due.end();
+    }
+
+    /** What the document's face declares, one after another, each without its end. */
+    private static List<String> faceOfDocument() {
+        Matcher block = Pattern.compile("```java public final class ShelfJudge \\{ (.*?); \\} ```")
+            .matcher(Document.part(0));
+        return block.find() ? List.of(block.group(1).split("; ")) : List.of();
+    }
+
+    /** The methods among these, as a name and how many arguments it takes. */
+    private static Set<String> methodsOf(List<String> declarations) {
+        Set<String> methods = new TreeSet<>();
+        for (String one : declarations) {
+            Matcher method = Pattern.compile("public int (\\w+)\\((.*)\\)").matcher(one);
+            if (method.matches()) {
+                String list = method.group(2);
+                methods.add(method.group(1) + " " + (list.isEmpty() ? 0 : list.split(", ").length));
+            }
+        }
+        return methods;
+    }
+
+    /** The class has the declarations of the document word by word, and in the same order. */
+    private static void order() throws Exception {
+        String text = sourceOnOneLine();
+        int at = 0;
+        for (String one : FACE) {
+            String due = one.endsWith(")") ? one + " {" : one + ";";
+            int found = text.indexOf(due, at);
+            Due.that("in its turn stands " + due, found >= 0);
+            at = Math.max(at, found);
+        }
+        Due.is("declarations", FACE.size(), 33);
+        Due.is("what is public beside the class", text.split("\\bpublic ").length - 2, 33);
+    }
+
+    private static void dividingLines() throws Exception {
+        String text = sourceOnOneLine();
+        Matcher lines = Pattern.compile("Ahead of the calls (.*?) the interface says: (----[ a-z,]+)\\.")
+            .matcher(Document.part(0));
+        int at = 0;
+        int count = 0;
+        while (lines.find()) {
+            int line = text.indexOf("// " + lines.group(2) + " public int ", at);
+            Due.that("there is " + lines.group(2), line >= at);
+            at = Math.max(at, line);
+            for (String call : lines.group(1).replace("`", "").split(", ")) {
+                int found = text.indexOf("public int " + call + "(");
+                Due.that(call + " stands behind " + lines.group(2), found > at);
+                at = Math.max(at, found);
+                count++;
+            }
+        }
+        Due.is("calls behind dividing lines", count, 27);
+    }
+
+    private static String sourceOnOneLine() throws Exception {
+        return Files.readString(SOURCE).replaceAll("\\s+", " ");
     }
 
     private static void face() throws Exception {
@@ -41,7 +103,8 @@ public final class FaceTest {
                 names.add(m.getName());
             }
         }
-        Due.that("the methods " + found, found.equals(new TreeSet<>(METHODS)));
+        Due.that("the methods " + found, found.equals(METHODS));
+        Due.is("how many", found.size(), 27);
         for (Method m : c.getDeclaredMethods()) {
             Due.that(m + " has a name of its own",
                 !Modifier.isPrivate(m.getModifiers()) || !names.contains(m.getName()));
@@ -52,13 +115,24 @@ public final class FaceTest {
         int constants = 0;
         for (Field f : c.getDeclaredFields()) {
             boolean isStatic = Modifier.isStatic(f.getModifiers());
-            Due.that(f + " is final if static", !isStatic || Modifier.isFinal(f.getModifiers()));
             if (!Modifier.isPrivate(f.getModifiers())) {
                 Due.that(f + " is a constant", isStatic && Modifier.isPublic(f.getModifiers()));
                 constants++;
             }
         }
         Due.is("constants", constants, 5);
+    }
+
+    /** A number can't be changed if it is final; an array could, and objects would share it. */
+    private static void staticFields() {
+        List<Class<?>> classes = new ArrayList<>(List.of(ShelfJudge.class.getDeclaredClasses()));
+        classes.add(ShelfJudge.class);
+        for (Class<?> c : classes) {
+            for (Field f : c.getDeclaredFields()) {
+                Due.that(f + " is a constant if static", !Modifier.isStatic(f.getModifiers())
+                    || Modifier.isFinal(f.getModifiers()) && f.getType().isPrimitive());
+            }
+        }
     }
 
     private static void constants() {
@@ -92,9 +166,7 @@ public final class FaceTest {
     }
 
     private static void source() throws Exception {
-        Path root = Path.of(System.getProperty("project.root", "."));
-        Path file = root.resolve("src/main/java/ShelfJudge.java");
-        List<String> lines = Files.readAllLines(file);
+        List<String> lines = Files.readAllLines(SOURCE);
         String[] ruledOut = {"try", "catch", "throw", "finally", "synchronized", "assert", "package",
             "->", "::", "Exact", "System.out", "Random", "Math.sqrt", "double", "static {"};
         int start = 0;
@@ -122,7 +194,7 @@ public final class FaceTest {
 
     private static boolean hasWord(String code, String word) {
         return Character.isLetter(word.charAt(0))
-            ? code.matches(".*\\b" + java.util.regex.Pattern.quote(word) + "(?![a-zA-Z]).*")
+            ? code.matches(".*\\b" + Pattern.quote(word) + "(?![a-zA-Z]).*")
             : code.contains(word);
     }
 }

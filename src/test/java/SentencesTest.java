@@ -8,15 +8,17 @@ import java.util.stream.Collectors;
 import java.util.stream.Stream;
 
 /**
- * All that the document promises is quoted by a test (see Due.sentence): the terms, the constants and
- * the promises 1 to 28, but for headings, signatures and where the interface has its dividing lines.
+ * All that the document promises is quoted by a test (see Due.sentence): how long an object is used,
+ * the terms, the constants and the promises 1 to 28. Left out are headings, the summary at the top,
+ * what FaceTest reads from the document (the face, dividing lines), and what is not promised.
  */
 public final class SentencesTest {
     private static final Pattern QUOTE =
         Pattern.compile("Due\\.sentence\\(\\s*(\\d+),\\s*((?:\"[^\"]*\"[\\s+]*)+)\\)");
     private static final Pattern WORDS = Pattern.compile("\"([^\"]*)\"");
     private static final Pattern NOT_PROMISED = Pattern.compile(
-        "^.*## Terms|## Promise \\d+: (?:A new object|\\w+)|`(?:int \\w+|ShelfJudge)\\([^)]*\\)`:"
+        "^# ShelfJudge ## What it is A judge of shelves: [^.]*\\.|## The public face ```java .*? ```|## Terms"
+        + "|## Promise \\d+: (?:A new object|\\w+)|`(?:int \\w+|ShelfJudge)\\([^)]*\\)`:"
         + "|Ahead of the calls .*? the interface says: ----[ a-z,]+\\."
         + "|2\\. WAYS, and what GOES by them:|```text");
 
